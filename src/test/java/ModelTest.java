@@ -904,6 +904,32 @@ public final class ModelTest {
         return wrong;
     }
 
+    /** Rooms full of things, and sleepers who are much alike, so that turns are hard to share out. */
+    private int crowd(int seed) {
+        Random random = new Random(seed);
+        LastAwake x = new LastAwake();
+        check(x, seed, "room", 1 + random.nextInt(7), 1 + random.nextInt(7));
+        int cells = world.w * world.h;
+        for (int c = 0; c < cells; c++) {
+            check(x, seed, "things", c, random.nextInt(3) == 0 ? 0 : random.nextInt(10));
+        }
+        check(x, seed, "place", 0, random.nextInt(cells));
+        check(x, seed, "place", 1, random.nextInt(cells));
+        check(x, seed, "moon", random.nextInt(128) & random.nextInt(128));
+        check(x, seed, "way", random.nextInt(cells), random.nextInt(cells));
+        check(x, seed, "bed");
+        int size = 1 + random.nextInt(4);
+        for (int s = 0; s < size; s++) {
+            check(x, seed, "sleeper", random.nextInt(6), 57 + random.nextInt(7), random.nextInt(3), random.nextInt(21), random.nextInt(20));
+        }
+        for (int n = 0; n <= 6; n++) {
+            for (int i = -1; i < n; i++) {
+                check(x, seed, "turns", n, i);
+            }
+        }
+        return wrong;
+    }
+
     public static void main(String[] args) {
         int wrong = 0;
         for (int seed = 1; seed <= RUNS; seed++) {
@@ -911,6 +937,9 @@ public final class ModelTest {
         }
         for (int seed = 1; seed <= 2000; seed++) {
             wrong += new ModelTest().texts(seed);
+        }
+        for (int seed = 1; seed <= 300; seed++) {
+            wrong += new ModelTest().crowd(seed);
         }
         System.out.println(wrong == 0 ? "all answers are as due" : wrong + " answers are not as due");
         if (wrong != 0) {

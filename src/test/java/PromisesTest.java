@@ -60,6 +60,7 @@ public final class PromisesTest {
         readGood();
         readFaults();
         readReplaces();
+        readFullTexts();
         pass();
         undo();
         about();
@@ -305,6 +306,13 @@ public final class PromisesTest {
         dueFault("rooms 2 2;", 0);
         dueFault(" roo 2 2;", 1);
         dueFault("Room 2 2;", 0);
+        dueFault("room 2 2;bred 1;", 9);
+        dueFault("room 2 2;ceda 1;", 9);
+        dueFault("room 2 2;zed 1;", 9);
+        dueFault("room 2 2;bed`1;", 12);
+        dueFault("room 2 2;bed{1;", 12);
+        dueFault("room 2 2;bed 1/", 14);
+        dueFault("room 2 2;bed 1:", 14);
         dueFault(";room 2 2;", 0);
         dueFault("2 room 2 2;", 0);
         dueFault("cord;room 2 2;", 0);
@@ -339,6 +347,20 @@ public final class PromisesTest {
         String four = "room 2 2;sleeper 0 0 0 0 0;sleeper 0 0 0 0 0;sleeper 0 0 0 0 0;sleeper 0 0 0 0 0;";
         dueFault(four + "sleeper 9", 81);
         dueFault(four + "cord;sleeper", 86);
+    }
+
+    /** Texts of 150 bytes: the last token ends with the last byte. */
+    private static void readFullTexts() {
+        String blanks = " ".repeat(141);
+        LastAwake x = new LastAwake();
+        due("11: 150 bytes", readAll(x, blanks + "room 3 1;"), 1);
+        due("11: 150 bytes", x.count(10), 150);
+        due("11: 150 bytes", readAll(x, "room 3 1;" + blanks), 1);
+        dueFault("room 3 1;" + blanks.substring(4) + "cord", 150);
+        dueFault("room 3 1;" + blanks.substring(5) + "bed 1", 150);
+        dueFault("room 3 1;" + blanks.substring(3) + "abz", 147);
+        due("11: the room alone", readAll(x, "room 4 4;"), 1);
+        due("11: many items", readAll(x, "room 1 1;" + "cord;".repeat(28)), 29);
     }
 
     private static void readReplaces() {
@@ -433,6 +455,32 @@ public final class PromisesTest {
         }
         due("13: the older ones are gone", x.undo(), -3);
         due("13: as ahead of the third night", x.about(0, 0), 2);
+        undoOfFour();
+    }
+
+    /** Each gets up in his own night, so that no two counts and costs are alike. */
+    private static void undoOfFour() {
+        LastAwake x = new LastAwake();
+        for (int i = 0; i < 4; i++) {
+            x.sleeper(0, 10 * i, 1, i, 60);
+        }
+        long[] ahead = new long[9];
+        for (int night = 0; night < 8; night++) {
+            int up = night % 4;
+            ahead[night] = x.digest();
+            x.become(up, 5, 40);
+            x.pass(1);
+            due("13: his turn", x.about(up, 0), night / 4 + 1);
+            x.become(up, 5, -1);
+        }
+        x.image(0);
+        x.pass(1);
+        x.room(1, 1);
+        x.from(0);
+        for (int night = 7; night >= 0; night--) {
+            due("13: undo", x.undo(), 1);
+            due("13: as ahead of night " + night, x.digest(), ahead[night]);
+        }
     }
 
     private static void about() {
@@ -660,6 +708,24 @@ public final class PromisesTest {
         due("21: till the other puts it out", x.reading(0), 50);
         x.become(0, 2, 0);
         due("21: of like ones the least", x.reading(0), 50);
+        // Up anyhow in 30 he reads till then, and walks, or till 31, and hates what is left: that is nothing here.
+        x.become(0, 5, 30);
+        due("21: rather than get up", x.reading(0), 50);
+        x.become(1, 4, 0);
+        due("21: it is out at once", x.reading(0), 0);
+        x.become(0, 5, 0);
+        due("21: up at once, or read on", x.reading(0), 1);
+        x.cord(1);
+        due("21: with a cord, not at all", x.reading(0), 0);
+        x.cord(0);
+        x.become(1, 4, 50);
+        x.place(1, 0);
+        x.become(1, 1, 100);
+        x.become(1, 2, 0);
+        x.become(0, 5, 100);
+        x.become(0, 2, 9);
+        x.become(0, 4, 0);
+        due("21: beside the switch, till he is up", x.reading(0), 120);
         due("21: sleeper 2", x.reading(2), -2);
         due("21: sleeper -1", x.reading(-1), -2);
         due("21: nothing changed", x.become(0, 1, 0), 0);
@@ -824,6 +890,10 @@ public final class PromisesTest {
         dueFraction("26: asleep(3, 9, 2, 2, 2)", x, 27, 139);
         x.asleep(4, 5, 5, 63, 6);
         dueFraction("26: asleep(4, 5, 5, 63, 6)", x, 2, 5);
+        x.asleep(5, 3, 3, 0, 0);
+        dueFraction("26: as likely as not", x, 1, 2);
+        x.asleep(5, 10, 0, 7, 3);
+        dueFraction("26: he who feigns is never even", x, 1, 1);
         x.asleep(0, 5, 5, 0, 0);
         dueFraction("26: never", x, 0, 1);
         x.asleep(10, 5, 5, 0, 1);
@@ -953,6 +1023,8 @@ public final class PromisesTest {
         x.things(5, 5);
         x.become(0, 0, 5);
         x.sleeper(0, 0, 0, 0, 0);
+        x.note(2, 5);
+        x.note(0, 4);
         due("32: image(0)", x.image(0), 1);
         long later = x.digest();
         due("33: from(1)", x.from(1), 1);
