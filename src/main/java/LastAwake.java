@@ -26,6 +26,9 @@ public final class LastAwake {
     private static final int TURN_MINUTE = 60;
     private static final int CHOICES = 7;
 
+    /* Above each count, cost and way that there can be. */
+    private static final int BEYOND = 1000000000;
+
     /* What is told of a sleeper, by the numbers that become() uses; COUNT and PAID come behind, as in digest(). */
     private static final int KIND = 0, READS = 1, HATES = 2, COLD = 3, PATIENCE = 4, UP = 5, COUNT = 6, PAID = 7;
     private static final int TRAITS = 8;
@@ -36,8 +39,8 @@ public final class LastAwake {
     private final State state = new State();
     /* What-ifs are played on a copy, so that asking changes nothing. */
     private final State trial = new State();
+    /* Null: none was kept yet. */
     private final State[] images = new State[IMAGES];
-    private final boolean[] kept = new boolean[IMAGES];
     private final Script script = new Script();
     private final int[] refused = new int[3];
     private final int[][] costsOfOne = new int[CHOICES][CHOICES];
@@ -46,9 +49,6 @@ public final class LastAwake {
     private long below = 1;
 
     public LastAwake() {
-        for (int i = 0; i < IMAGES; i++) {
-            images[i] = new State();
-        }
     }
 
     // ---- a room
@@ -290,11 +290,11 @@ public final class LastAwake {
         if (!within(n, 0, MOST_TURNS) || i < NONE) {
             return bad(BAD_TEN);
         }
-        if (i >= n) {
-            return NOT_SO_MANY;
-        }
         if (state.beds.size == 0) {
             return NONE;
+        }
+        if (i >= n) {
+            return NOT_SO_MANY;
         }
         state.floor.measureWalk();
         int least = state.leastOfTurns(n);
@@ -404,8 +404,10 @@ public final class LastAwake {
         if (!within(i, 0, IMAGES - 1)) {
             return bad(BAD);
         }
+        if (images[i] == null) {
+            images[i] = new State();
+        }
         images[i].copyFrom(state);
-        kept[i] = true;
         return 1;
     }
 
@@ -413,7 +415,7 @@ public final class LastAwake {
         if (!within(i, 0, IMAGES - 1)) {
             return bad(BAD);
         }
-        if (!kept[i]) {
+        if (images[i] == null) {
             return no();
         }
         state.copyFrom(images[i]);
@@ -556,7 +558,6 @@ public final class LastAwake {
 
     /** The cells, and what is in them. */
     private static final class Floor {
-        private static final int FAR = 1000000;
         private static final int UNKNOWN = -1;
 
         int w;
@@ -642,7 +643,7 @@ public final class LastAwake {
         /** Worked out backwards from the end, so that one pass tells the ways from all cells. */
         private void measureWaysTo(int end) {
             int cells = w * h;
-            Arrays.fill(ways, FAR);
+            Arrays.fill(ways, BEYOND);
             ways[end] = 0;
             boolean shorter = true;
             for (int round = 0; round < cells && shorter; round++) {
@@ -682,8 +683,8 @@ public final class LastAwake {
             return 2 + (seen ? 0 : things[cell]) + ways[cell];
         }
 
-        long mixInto(long h0) {
-            long mixed = h0;
+        long mixInto(long before) {
+            long mixed = before;
             for (int cell = 0; cell < w * h; cell++) {
                 mixed = 31 * mixed + things[cell];
             }
@@ -774,7 +775,7 @@ public final class LastAwake {
         }
 
         int leastCount() {
-            int least = Integer.MAX_VALUE;
+            int least = BEYOND;
             for (int s = 0; s < size; s++) {
                 least = Math.min(least, sleepers[s].traits[COUNT]);
             }
@@ -846,8 +847,8 @@ public final class LastAwake {
             return last;
         }
 
-        long mixInto(long h0) {
-            long mixed = h0;
+        long mixInto(long before) {
+            long mixed = before;
             for (int s = 0; s < size; s++) {
                 for (int trait = 0; trait < TRAITS; trait++) {
                     mixed = 31 * mixed + sleepers[s].traits[trait];
@@ -902,8 +903,8 @@ public final class LastAwake {
             return (right & wrong) != 0 ? NONE : Integer.bitCount(wrong);
         }
 
-        long mixInto(long h0) {
-            long mixed = h0;
+        long mixInto(long before) {
+            long mixed = before;
             for (int i = 0; i < size; i++) {
                 mixed = 31 * mixed + writers[i];
                 mixed = 31 * mixed + named[i];
@@ -957,8 +958,8 @@ public final class LastAwake {
         /** Of the night last foreseen. */
         int costTonight(int sleeper) {
             int light = beds.sleepers[sleeper].lightCost(night.minute);
-            boolean gets = night.putOutBy == sleeper && floor.cords == 0;
-            return gets ? light + errandTonight() : light;
+            boolean getsUp = night.putOutBy == sleeper && floor.cords == 0;
+            return getsUp ? light + errandTonight() : light;
         }
 
         /** What getting up costs without a cord in the night last foreseen. */
@@ -1009,7 +1010,7 @@ public final class LastAwake {
         }
 
         private int nextBurden(int bound, int n) {
-            int next = Integer.MAX_VALUE;
+            int next = BEYOND;
             for (int s = 0; s < beds.size; s++) {
                 int own = ownTurnsWithin(s, bound, n);
                 if (own < n) {

@@ -535,12 +535,12 @@ public final class ModelTest {
         if (!in(n, 0, 6) || i < -1) {
             return bad(-10);
         }
-        if (i >= n) {
-            return -5;
-        }
         int size = world.sleepers.size();
         if (size == 0) {
             return -1;
+        }
+        if (i >= n) {
+            return -5;
         }
         int[][] costs = new int[size][size];
         for (int by = 0; by < size; by++) {

@@ -799,6 +799,7 @@ public final class PromisesTest {
         due("23: nobody", x.turns(3, -1), -1);
         due("23: nobody, the first", x.turns(3, 0), -1);
         due("23: nobody, none", x.turns(0, -1), -1);
+        due("23: nobody comes ahead of not so many", x.turns(3, 3), -1);
         due("23: n 7", x.turns(7, -1), -10);
         due("23: n -1", x.turns(-1, -1), -10);
         due("23: i -2", x.turns(3, -2), -10);
