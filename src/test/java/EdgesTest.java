@@ -147,6 +147,47 @@ public final class EdgesTest {
         due("15: over one rather than around", x.way(0, 2), 9);
     }
 
+    /** Rooms in which the least ways wind to and fro as much as they can, held against ways over each CELL in turn. */
+    private static void windingWays() {
+        dueWays(7, "0009980" + "0900597" + "9004196" + "0056663" + "0999783" + "0109293" + "7004023");
+        dueWays(5, "04002" + "99906" + "80003" + "80899" + "00299" + "08568" + "00000");
+        dueWays(7, "3880000" + "0900790" + "2029900" + "5981509" + "5761647");
+        dueWays(3, "000" + "890" + "714" + "008" + "069" + "260" + "001");
+        dueWays(7, "1890001" + "0720760" + "0029930");
+    }
+
+    private static void dueWays(int w, String things) {
+        int[][] least = leastWays(w, things);
+        for (int to = 0; to < things.length(); to++) {
+            LastAwake x = roomOf(w, things.length() / w);
+            for (int c = 0; c < things.length(); c++) {
+                x.things(c, things.charAt(c) - '0');
+            }
+            for (int from = 0; from < things.length(); from++) {
+                due("15: way(" + from + ", " + to + ") of " + things, x.way(from, to), least[from][to]);
+            }
+        }
+    }
+
+    private static int[][] leastWays(int w, String things) {
+        int cells = things.length();
+        int[][] least = new int[cells][cells];
+        for (int a = 0; a < cells; a++) {
+            for (int b = 0; b < cells; b++) {
+                boolean beside = Math.abs(a % w - b % w) + Math.abs(a / w - b / w) == 1;
+                least[a][b] = a == b ? 0 : beside ? 2 + things.charAt(b) - '0' : 10000;
+            }
+        }
+        for (int over = 0; over < cells; over++) {
+            for (int a = 0; a < cells; a++) {
+                for (int b = 0; b < cells; b++) {
+                    least[a][b] = Math.min(least[a][b], least[a][over] + least[over][b]);
+                }
+            }
+        }
+        return least;
+    }
+
     // ---- SLEEPERS
 
     /** "0 .. 3, as they come": four, and no fifth; "never UP; COUNT 0 at first". */
@@ -376,6 +417,58 @@ public final class EdgesTest {
         due("18: the SWITCH's own are on it", x.cost(0), 20 + 22);
         x.moon(2);
         due("18: by the moon", x.cost(0), 20 + 4);
+    }
+
+    /** What is asked behind a change of the floor is of the floor as it is, in an IMAGE's room, too. */
+    private static void errandsFollowTheFloor() {
+        LastAwake x = roomOf(7, 1);
+        x.sleeper(0, 60, 0, 0, 0);
+        dueErrand("the BED is far", x, 24);
+        x.image(0);
+        x.place(1, 1);
+        dueErrand("the BED is near", x, 4);
+        x.image(1);
+        x.things(0, 9);
+        dueErrand("THINGS are by the SWITCH", x, 22);
+        x.moon(1);
+        dueErrand("the moon comes", x, 4);
+        x.moon(2);
+        dueErrand("the moon goes", x, 22);
+        x.place(0, 2);
+        dueErrand("the SWITCH is on the other side", x, 4);
+        x.from(0);
+        dueErrand("the first IMAGE", x, 24);
+        x.from(1);
+        dueErrand("the second IMAGE", x, 4);
+        x.cord(1);
+        due("18: a CORD", x.cost(0), 0);
+        due("19: a CORD", x.foretold(1, -1, 1), 0);
+        due("23: a CORD", x.turns(1, -1), 0);
+        x.room(4, 1);
+        x.sleeper(0, 60, 0, 0, 0);
+        dueErrand("another room", x, 12);
+        for (char c : "room 2 1;sleeper 0 60 0 0 0;".toCharArray()) {
+            x.type(c);
+        }
+        x.read();
+        dueErrand("a room that is read", x, 4);
+        x.clear();
+        for (char c : "room 7 7;bed 9;thing 0 10;".toCharArray()) {
+            x.type(c);
+        }
+        due("11: a fault", x.read(), -10 - 23);
+        dueErrand("a fault changes nothing", x, 4);
+    }
+
+    private static void dueErrand(String when, LastAwake x, int errand) {
+        due("19: " + when, x.foretold(1, 0, 1), errand);
+        due("18: " + when, x.cost(0), errand);
+        due("20: " + when, x.worth(errand), 1);
+        due("20: " + when, x.worth(errand + 1), 2);
+        due("23: " + when, x.turns(1, -1), errand);
+        due("12: " + when, x.pass(1), 1);
+        due("14: " + when, x.about(0, 1), errand);
+        due("13: " + when, x.undo(), 1);
     }
 
     // ---- pass
@@ -1060,6 +1153,7 @@ public final class EdgesTest {
         roomLeavesNothing();
         rowsDoNotWrap();
         ways();
+        windingWays();
         sleepers();
         whoComesIsNew();
         waits();
@@ -1069,6 +1163,7 @@ public final class EdgesTest {
         burnsOut();
         costs();
         errands();
+        errandsFollowTheFloor();
         passes();
         manyNights();
         undoing();
