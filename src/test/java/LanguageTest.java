@@ -114,10 +114,22 @@ public final class LanguageTest {
         while (imports.find()) {
             hold(imports.group(1).equals("java.util.Arrays"), "no import of " + imports.group(1));
         }
+        libraryIsTheListed(code);
         for (int i = 0; i < text.length(); i++) {
             hold(text.charAt(i) < 128, "all signs of the file are plain ones");
         }
         methodsAreShort(code);
+    }
+
+    private static final Set<String> LISTED = new TreeSet<>(Arrays.asList("Math.min", "Math.max", "Integer.bitCount",
+        "Arrays.fill", "System.arraycopy"));
+
+    /** What the class uses of the library; whoever uses more of what rule 4 lists adds it here. */
+    private static void libraryIsTheListed(String code) {
+        Matcher used = Pattern.compile("\\b[A-Z][a-z]\\w*\\.[a-z]\\w*").matcher(code.replaceAll("import [^;]*;", " "));
+        while (used.find()) {
+            hold(LISTED.contains(used.group()), "no " + used.group() + " in the file");
+        }
     }
 
     private static boolean isPartOfLonger(String code, String word) {
